@@ -14,15 +14,18 @@ public final class ToastGaol {
     private static final int SHEETS = 4, FORMS = 3, MOST_ITEMS = 60;
     private static final int NULL = 1, INDEX = 2, CAST = 3, STORE = 4, SIZE = 5;
     private static final int[] GREATEST = {30, 9, 99};
+    private static final int[] DIGEST_HOURS = {0, 5, 29};
 
     private final Text[] texts = new Text[2];
     private final Setting setting = new Setting();
     private final Log log = new Log(setting);
-    private final Plans plans = new Plans(setting);
+    /** One course serves all searches: none needs it behind its own call. */
+    private final Course trial = new Course(setting);
+    private final Plans plans = new Plans(setting, trial);
     private final Sightings sightings = new Sightings(setting);
-    private final Guesses guesses = new Guesses(setting, sightings);
+    private final Guesses guesses = new Guesses(setting, sightings, trial);
     private final Window window = new Window(setting);
-    private final Others others = new Others(setting);
+    private final Others others = new Others(setting, trial);
     private final Sheet[] sheets = new Sheet[SHEETS];
     private int finding = 0;
 
@@ -452,15 +455,11 @@ public final class ToastGaol {
         for (int what = 0; what <= 2; what++) {
             mixed = mix(mixed, slice(slice, what));
         }
-        mixed = mixHour(mixed, 0, slice);
-        mixed = mixHour(mixed, 5, slice);
-        mixed = mixHour(mixed, 29, slice);
+        for (int hour : DIGEST_HOURS) {
+            mixed = mix(mix(mixed, heat(hour, slice)), state(hour, slice));
+        }
         mixed = mix(mixed, freed(slice, 0));
         return mix(mixed, freed(slice, 1));
-    }
-
-    private long mixHour(long h, int hour, int slice) {
-        return mix(mix(h, heat(hour, slice)), state(hour, slice));
     }
 
     /** Each search is made once for all that it finds: asked for call by call, it would be made twice. */
@@ -658,6 +657,14 @@ public final class ToastGaol {
             }
         }
 
+        private void goThrough() {
+            begin();
+            for (int hour = 0; hour < HOURS; hour++) {
+                untilButters(hour);
+                fromButters(hour, 0);
+            }
+        }
+
         /** An hour of another course, in this one: the other stays as it was. */
         private void follow(Course other, int hour, int more) {
             System.arraycopy(other.heat, 0, heat, 0, MOST_SLICES);
@@ -680,8 +687,14 @@ public final class ToastGaol {
         private void fromButters(int hour, int more) {
             spread(hour);
             feelWarmth();
-            cool(more);
-            letGo(hour);
+            for (int i = 0; i < setting.slices; i++) {
+                if (isIn(i)) {
+                    heat[i] = Math.max(0, heat[i] - cooling(i, more));
+                    if (heat[i] <= setting.rule[COLD]) {
+                        letGo(i, hour);
+                    }
+                }
+            }
         }
 
         private boolean isIn(int i) {
@@ -747,7 +760,8 @@ public final class ToastGaol {
 
         /** All cool at once, so what is felt beside one is told before any has cooled. */
         private void feelWarmth() {
-            for (int place = 0; place < MOST_SLOTS + 2; place++) {
+            int places = Math.min(setting.slots + 2, MOST_SLOTS + 2);
+            for (int place = 0; place < places; place++) {
                 warmth[place] = 0;
             }
             for (int i = 0; i < setting.slices; i++) {
@@ -757,17 +771,10 @@ public final class ToastGaol {
             }
         }
 
-        private void cool(int more) {
-            for (int i = 0; i < setting.slices; i++) {
-                if (is[i] == STANDS) {
-                    heat[i] = Math.max(0, heat[i] - cooling(i, more));
-                } else if (is[i] == LEANS) {
-                    heat[i] = Math.max(0, heat[i] - 1);
-                }
-            }
-        }
-
         private int cooling(int i, int more) {
+            if (is[i] == LEANS) {
+                return 1;
+            }
             int slot = setting.slot[i];
             int kind = setting.kind[i];
             int by = setting.draws[slot] + more + 1 - setting.rule[SUMMER];
@@ -784,16 +791,12 @@ public final class ToastGaol {
             return kind == BURNT ? by / 2 : by;
         }
 
-        private void letGo(int hour) {
-            for (int i = 0; i < setting.slices; i++) {
-                if (isIn(i) && heat[i] <= setting.rule[COLD]) {
-                    leave(i, FREE);
-                    left[i] = hour;
-                    times[i]++;
-                    if (first[i] == NONE) {
-                        first[i] = hour;
-                    }
-                }
+        private void letGo(int i, int hour) {
+            leave(i, FREE);
+            left[i] = hour;
+            times[i]++;
+            if (first[i] == NONE) {
+                first[i] = hour;
             }
         }
     }
@@ -847,9 +850,9 @@ public final class ToastGaol {
         private int swapOther = NONE;
         private int swapStay = NONE;
 
-        private Plans(Setting setting) {
+        private Plans(Setting setting, Course course) {
             this.setting = setting;
-            course = new Course(setting);
+            this.course = course;
         }
 
         private void findMove(int slice) {
@@ -937,21 +940,13 @@ public final class ToastGaol {
             int greatest = NONE;
             for (int summer = SUMMERS - 1; summer >= 0 && greatest == NONE; summer--) {
                 setting.rule[SUMMER] = summer;
-                if (noneInAtLast()) {
+                course.goThrough();
+                if (course.howManyIn() == 0) {
                     greatest = summer;
                 }
             }
             setting.rule[SUMMER] = own;
             return greatest;
-        }
-
-        private boolean noneInAtLast() {
-            course.begin();
-            for (int hour = 0; hour < HOURS; hour++) {
-                course.untilButters(hour);
-                course.fromButters(hour, 0);
-            }
-            return course.howManyIn() == 0;
         }
     }
 
@@ -1005,10 +1000,10 @@ public final class ToastGaol {
         private final int[] noted = new int[MOST_SLICES];
         private final int[] tally = new int[MOST_SLICES * STATES];
 
-        private Guesses(Setting setting, Sightings sightings) {
+        private Guesses(Setting setting, Sightings sightings, Course course) {
             this.setting = setting;
             this.sightings = sightings;
-            course = new Course(setting);
+            this.course = course;
         }
 
         private void findHeats(int slice) {
@@ -1179,9 +1174,9 @@ public final class ToastGaol {
         private int free = 0;
         private int soft = 0;
 
-        private Others(Setting setting) {
+        private Others(Setting setting, Course course) {
             this.setting = setting;
-            course = new Course(setting);
+            this.course = course;
         }
 
         private void draw(int seed) {
@@ -1191,11 +1186,7 @@ public final class ToastGaol {
                 next = 1103515245 * next + 12345;
                 setting.heat[slice] = (next >>> 16) % HEATS;
             }
-            course.begin();
-            for (int hour = 0; hour < HOURS; hour++) {
-                course.untilButters(hour);
-                course.fromButters(hour, 0);
-            }
+            course.goThrough();
             System.arraycopy(own, 0, setting.heat, 0, MOST_SLICES);
             free = howManyAre(FREE);
             soft = howManyAre(SOFTENED);
