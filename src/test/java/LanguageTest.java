@@ -64,7 +64,7 @@ public final class LanguageTest {
       constants++;
       rule(1, f + " is a constant of the document", List.of("NONE", "BAD", "NOT", "FULL").contains(f.getName()) && f.getType() == int.class);
     }
-    rule(1, "four constants", constants == 4);
+    rule(1, "four constants", constants == 4 && ToastGaol.NONE == -1 && ToastGaol.BAD == -2 && ToastGaol.NOT == -3 && ToastGaol.FULL == -4);
     inside.add(ToastGaol.class);
     for (Class<?> c : inside) {
       for (Method m : c.getDeclaredMethods()) rule(1, m + " bears a public name", c == ToastGaol.class && Modifier.isPublic(m.getModifiers()) || !names.contains(m.getName()));

@@ -27,6 +27,7 @@ public final class PromisesTest {
 
   public static void main(String[] args) {
     texts();
+    changes();
     settings();
     reads();
     cooling();
@@ -110,6 +111,31 @@ public final class PromisesTest {
     due(37, "bytes of slices", x.count(3), 19);
   }
 
+  /** What was answered before a change must not be answered behind it. */
+  private static void changes() {
+    ToastGaol x = gaol("3", "c500");
+    due(13, "as told", x.heat(0, 0), 46);
+    x.type(0, '3');
+    due(2, "another slot changes nothing here", x.heat(0, 0), 46);
+    x.type(1, ';');
+    due(13, "no slices", x.heat(0, 0), BAD);
+    type(x, 1, "c601");
+    due(2, "a hotter one beside it", x.heat(0, 0), 47);
+    x.undo(0);
+    due(4, "it leans", x.heat(0, 0), 46);
+    due(15, "one slot", x.held(0), 1);
+    x.wipe(0);
+    due(3, "all lean", x.heat(0, 0), 49);
+    due(3, "no slots", x.count(0), 0);
+    due(15, "no slot", x.held(0), 0);
+    x.set(0, 29);
+    due(8, "how cold is cold", x.quiet(), NONE);
+    x.set(0, 30);
+    due(8, "how cold is cold", x.quiet(), 29);
+    x.wipe(1);
+    due(3, "no slices", x.quiet(), 0);
+  }
+
   private static void settings() {
     ToastGaol x = gaol("1", "w500");
     int[] first = {10, 0, 40}, most = {30, 9, 99};
@@ -153,6 +179,11 @@ public final class PromisesTest {
   }
 
   private static void reads() {
+    ToastGaol even = gaol("0", "c500;c500;c500");
+    even.sheet(3, 2, 2);
+    even.lay(3, 2, 1, 1);
+    due(12, "two items are one", even.read(3), 1);
+    due(12, "slice 1", even.spoilt(), 2);
     ToastGaol x = gaol("0", "c500;c500;c500");
     for (int s : new int[] {-1, 4, LOW, HIGH}) due(12, "no sheet", x.read(s), BAD);
     due(12, "a lost sheet", x.read(0), NULL);
@@ -281,6 +312,8 @@ public final class PromisesTest {
     due(16, "never", x.freed(0, 1), 0);
     due(18, "never quiet", x.quiet(), NONE);
     due(18, "quiet without slices", gaol("0", "").quiet(), 0);
+    due(19, "slice 0", gaol("0", "c991;c990").crowd(1), 0);
+    due(19, "later", gaol("9", "c400;t990;c999").crowd(1), 1);
     due(19, "no crowd", gaol("0", "c990").crowd(0), NONE);
     due(19, "no crowd", gaol("0", "c990").crowd(1), NONE);
 
@@ -375,11 +408,20 @@ public final class PromisesTest {
     // the same hour by both: the least
     due(20, "of like ones the least", gaol("45", "c200;t201").move(0, 0), 0);
 
+    x = gaol("9", "w500;b991");
+    due(20, "one that has none, behind one that has", x.move(0, 1), 3);
+    x.set(1, 9);
+    due(20, "one that has none, behind one that has", x.move(1, 0), NONE);
+    due(20, "one that has none, behind one that has", x.move(1, 1), NONE);
     // 60 by 1 an hour stays for all; by 10 it stays behind hours 0 to 3, again behind 7, and goes at once in hour 11
     x = gaol("09", "c600;w111");
     due(21, "the first", x.swap(0), 0);
     due(21, "the other", x.swap(1), 1);
     due(21, "how many", x.swap(2), 5);
+    x.wipe(0);
+    for (int what = 0; what < 3; what++) due(21, "none, behind some", x.swap(what), NONE);
+    // with a burnt one that stands in slot 0 from hour 1 on for all: by 10, then by 9, behind 0 to 4, again behind 8 and 9
+    due(21, "all hours, one for all", gaol("09", "c600;w111;b900").swap(2), 30 + 5 + 2);
     // 40 would stay behind 2 hours in place of 29, but the burnt one for all 30
     due(21, "better for one, worse for all", gaol("09", "c400;b111").swap(0), NONE);
     x = gaol("09", "c400;w111");
@@ -404,6 +446,8 @@ public final class PromisesTest {
     due(23, "whatever summer is set", x.bear(), 8);
     due(23, "and it stays set", x.set(1, 0), 9);
     due(23, "none", gaol("0", "b990").bear(), NONE);
+    due(23, "no summer at all", gaol("0", "t400").bear(), 0);
+    due(23, "hardly any", gaol("1", "t400").bear(), 1);
     x = gaol("0", "b990");
     x.butter(0, 0);
     due(23, "one that went soft is no trouble", x.bear(), 9);
@@ -424,6 +468,8 @@ public final class PromisesTest {
     due(22, "no slice", x.line(-1), BAD);
     due(22, "at once", gaol("3", "w400").line(0), 0);
     due(22, "one that leans", gaol("", "w420").line(0), 2);
+    due(22, "in the last hour", gaol("", "w690").line(0), 29);
+    due(22, "there is no hour 30", gaol("", "w700").line(0), NONE);
     x = gaol("9", "w500");
     x.set(2, 5);
     due(22, "let go above SOFT", x.line(0), NONE);
@@ -493,6 +539,9 @@ public final class PromisesTest {
     due(28, "hour 2 tells", x.ask(2), 1);
     due(28, "the summer stays", x.set(1, 0), 0);
     due(28, "no slices", gaol("9", "").ask(3), NONE);
+    ToastGaol y = gaol("9", "c401;c400");
+    due(28, "one leans in all ten", y.ask(3), 1);
+    due(28, "both are alike behind hour 0", y.ask(0), 0);
     x.seen(3, 1, STANDS);
     due(28, "by no summer: all are like", x.ask(3), 0);
   }
@@ -536,6 +585,17 @@ public final class PromisesTest {
     due(29, "hour", x.window(0, 0, 0, -1, 0), bad);
     due(29, "what", x.window(0, 0, 0, 0, 2), bad);
     due(29, "what", x.window(0, 0, 0, 0, -1), bad);
+    x = gaol("00", "c990;c131");
+    due(29, "a hotter one beside it", x.window(5, 0, 1, 0, 0), 5);
+    due(29, "a hotter one beside it", x.window(5, 0, 1, 0, 1), 16);
+    // the slot is free from hour 2 on: 48, 38, 28, 18, 8
+    x = gaol("9", "w300;c500");
+    due(29, "leans at first", x.window(0, 0, 1, 4, 0), 0);
+    due(29, "leans at first", x.window(0, 0, 1, 5, 0), 1);
+    // c40 beside it comes again in hour 5, with 20, and holds it up for an hour more
+    x = gaol("90", "c400;c211");
+    due(29, "held up by one that came again", x.window(0, 9, 1, 12, 0), 0);
+    due(29, "held up by one that came again", x.window(0, 9, 1, 13, 0), 1);
     // it draws more where one stands, not for one that leans
     due(29, "leans", gaol("", "c130").window(16, 9, 0, 1, 0), 0);
     x = gaol("0", "c900");
@@ -613,7 +673,9 @@ public final class PromisesTest {
     due(34, "another form ahead of no item", x.get(0, 2, -1), LOW);
     due(37, "finding", x.count(8), 3);
     due(34, "nothing changed", x.get(0, 0, 0), 0);
+    x.lay(0, 0, 0, 5);
     due(31, "a new row", x.sheet(0, 0, 60), 60);
+    due(34, "0 at first", x.get(0, 0, 0), 0);
     due(34, "0 at first", x.get(0, 0, 59), 0);
     x.sheet(1, 1, 2);
     x.lay(1, 1, 1, 0x12348765);
@@ -740,5 +802,12 @@ public final class PromisesTest {
     due(38, "sheets and findings are not in it", x.digest(), was);
     x.type(0, 'x');
     due(38, "with a fault", x.digest(), digestOf(x, 0, 6));
+    // as much of everything as there may be: no index may go too far
+    x = gaol("9876543210", "c999;w988;b977;t966;c555;w444;b333;t990");
+    for (int i = 0; i < 8; i++) x.butter(i, 7 - i);
+    for (int i = 0; i < 4; i++) x.fire(i);
+    for (int i = 0; i < 8; i++) x.seen(i, i, x.state(i, i));
+    due(38, "of all that there may be", x.digest(), digestOf(x, 10, 8));
+    due(38, "all that was seen comes out so", x.heats(7, NONE) > 0 ? 1 : 0, 1);
   }
 }
