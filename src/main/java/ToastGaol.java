@@ -627,13 +627,11 @@ public final class ToastGaol {
 
     /** One going through of the hours: how all is behind the hour that passed last. */
     private static final class Course {
-        /** No hour from which, three hours later, a crust could come again. */
-        private static final int NEVER = -9;
-
         private final Setting setting;
         private final int[] heat = new int[MOST_SLICES];
         private final int[] is = new int[MOST_SLICES];
         private final int[] came = new int[MOST_SLICES];
+        /** The hour in which each was let go last; of one that never was it says nothing. */
         private final int[] left = new int[MOST_SLICES];
         private final int[] first = new int[MOST_SLICES];
         private final int[] times = new int[MOST_SLICES];
@@ -651,7 +649,6 @@ public final class ToastGaol {
                 heat[i] = setting.heat[i];
                 came[i] = setting.heat[i];
                 is[i] = LEANS;
-                left[i] = NEVER;
                 first[i] = NONE;
                 times[i] = 0;
             }
