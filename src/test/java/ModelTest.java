@@ -120,6 +120,8 @@ public final class ModelTest {
   /** Makes a call on both, and tells the run if they differ. */
   record Caller(ToastGaol gaol, Model model, List<String> told, int run) {
     long call(Method method, int... a) throws Exception {
+      // the document promises nothing about an object behind its 512th call
+      if (told.size() >= CALLS) return 0;
       Object[] boxed = Arrays.stream(a).boxed().toArray();
       told.add(method.getName() + Arrays.toString(a).replace('[', '(').replace(']', ')'));
       long got;

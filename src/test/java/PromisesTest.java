@@ -1,30 +1,5 @@
 /** Each promise of the document by itself: ordinary inputs, the edges it names, wrong inputs; worked out by hand. */
-public final class PromisesTest {
-  private static final int NONE = ToastGaol.NONE, BAD = ToastGaol.BAD, NOT = ToastGaol.NOT, FULL = ToastGaol.FULL;
-  private static final int NULL = -11, INDEX = -12, CAST = -13, STORE = -14, SIZE = -15;
-  private static final int LOW = Integer.MIN_VALUE, HIGH = Integer.MAX_VALUE;
-  private static final int LEANS = 0, STANDS = 1, FREE = 2, SOFT = 3;
-  private static int wrong = 0, asked = 0;
-
-  private static void due(int promise, String what, long got, long want) {
-    asked++;
-    if (got != want) {
-      wrong++;
-      System.out.println("promise " + promise + ": " + what + " answered " + got + ", due is " + want);
-    }
-  }
-
-  private static void type(ToastGaol x, int text, String s) {
-    for (int i = 0; i < s.length(); i++) x.type(text, s.charAt(i));
-  }
-
-  private static ToastGaol gaol(String rack, String slices) {
-    ToastGaol x = new ToastGaol();
-    type(x, 0, rack);
-    type(x, 1, slices);
-    return x;
-  }
-
+public final class PromisesTest extends Check {
   public static void main(String[] args) {
     texts();
     changes();
@@ -43,8 +18,7 @@ public final class PromisesTest {
     writes();
     counts();
     digests();
-    System.out.println(wrong == 0 ? asked + " answers are as due" : wrong + " answers are not as due");
-    if (wrong != 0) System.exit(1);
+    end();
   }
 
   private static void texts() {
