@@ -17,6 +17,7 @@ public final class HourBoundsTest extends Check {
     placesByNumbers();
     firesAndPlaces();
     butters();
+    whatWasThere();
     heatAsItWent();
     heldBits();
     freedTimes();
@@ -332,6 +333,29 @@ public final class HourBoundsTest extends Check {
     x.fire(0);
     x.butter(0, 0);
     due(14, "fires come first", x.state(0, 0), SOFT);
+  }
+
+  /** What there was before a text changed is not felt, and not buttered. */
+  private static void whatWasThere() {
+    ToastGaol x = gaol("330", "c501;b992");
+    due(13, "a hotter one beside it", x.heat(0, 0), 47);
+    x.undo(0);
+    due(13, "its slot is no more", x.heat(0, 0), 46);
+    due(14, "it leans", x.state(0, 1), LEANS);
+    x.type(0, '0');
+    due(13, "its slot is there again", x.heat(0, 0), 47);
+    for (int i = 0; i < 5; i++) x.undo(1);
+    due(13, "it is no more", x.heat(0, 0), 46);
+    x = gaol("00", "b991;b990");
+    due(15, "both stand", x.held(29), 3);
+    x.wipe(1);
+    type(x, 1, "b990");
+    x.butter(0, 1);
+    due(15, "slice 1 is no more, and its slot is another's", x.held(0), 1);
+    due(14, "it stands", x.state(29, 0), STANDS);
+    due(17, "none goes soft", x.spoilt(), 0);
+    due(22, "none goes soft", x.line(0), NONE);
+    due(23, "all summers are alike", x.bear(), NONE);
   }
 
   private static void heatAsItWent() {

@@ -12,6 +12,7 @@ public final class SeenBoundsTest extends Check {
     heatsByTheHour();
     heatsBySoft();
     heatsNever();
+    heatsOfOneThatWasThere();
     slotsBounds();
     slotsOfRacks();
     askBounds();
@@ -162,6 +163,17 @@ public final class SeenBoundsTest extends Check {
       due(27, "one that there is not was " + state, x.slots(0), 0);
       due(28, "one that there is not was " + state, x.ask(0), 0);
     }
+  }
+
+  private static void heatsOfOneThatWasThere() {
+    ToastGaol x = gaol("00", "b990;b991");
+    x.seen(29, 1, STANDS);
+    due(26, "both are there", x.heats(0, NONE), 100);
+    for (int i = 0; i < 5; i++) x.undo(1);
+    dueHeats("one that was there", x, 0, 0, -1);
+    due(27, "one that was there", x.slots(0), 0);
+    type(x, 1, ";b991");
+    due(26, "both are there again", x.heats(0, NONE), 100);
   }
 
   private static void slotsBounds() {

@@ -24,6 +24,7 @@ public final class SheetBoundsTest extends Check {
     countBounds();
     countOfFindings();
     digestOfANewOne();
+    digestOfTheHour();
     digestWraps();
     end();
   }
@@ -448,6 +449,16 @@ public final class SheetBoundsTest extends Check {
     for (int i = 0; i < 7 && i < x.count(1); i++) x.seen(i, i, x.state(i, i));
     if (more == 2) x.seen(0, 7, SOFT);
     return x;
+  }
+
+  /** So that each hour and each number that the digest asks with is told from the next ones. */
+  private static void digestOfTheHour() {
+    // 70 by 10 or 9 an hour is let go behind hour 6; behind hour 5 by 10 alone
+    ToastGaol x = gaol("90", "b991;t700");
+    x.seen(6, 1, FREE);
+    int[] want = {0, 1, 0};
+    for (int i = 0; i < 3; i++) due(28, "ask(" + (4 + i) + ")", x.ask(4 + i), want[i]);
+    due(38, "ask(5)", x.digest(), digestOf(x));
   }
 
   private static void digestWraps() {
