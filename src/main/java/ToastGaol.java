@@ -13,6 +13,8 @@ public final class ToastGaol {
     private static final int COLD = 0, SUMMER = 1, SOFT = 2;
     private static final int SHEETS = 4, FORMS = 3, MOST_ITEMS = 60;
     private static final int NULL = 1, INDEX = 2, CAST = 3, STORE = 4, SIZE = 5;
+    private static final int LEAST_INT = 1 << 31;
+    private static final long LEAST_LONG = 1L << 63;
     private static final int[] GREATEST = {30, 9, 99};
     private static final int[] DIGEST_HOURS = {0, 5, 29};
 
@@ -302,7 +304,7 @@ public final class ToastGaol {
 
     public long window(int c, int last, int slice, int hour, int what) {
         if (!isWithin(c, 16) || !isWithin(last, Window.LAST) || !isSlice(slice) || !isHour(hour) || !isWithin(what, 1)) {
-            return Long.MIN_VALUE - BAD;
+            return LEAST_LONG - BAD;
         }
         window.weigh(c, last, slice, hour);
         return what == 0 ? window.above : window.below;
@@ -355,12 +357,12 @@ public final class ToastGaol {
 
     public int get(int s, int form, int i) {
         if (!isSheet(s) || !isForm(form)) {
-            return Integer.MIN_VALUE;
+            return LEAST_INT;
         }
         int wrong = findingAt(s, form, i);
         if (wrong != 0) {
             finding = wrong;
-            return Integer.MIN_VALUE;
+            return LEAST_INT;
         }
         return sheets[s].items[i];
     }

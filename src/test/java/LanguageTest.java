@@ -23,6 +23,8 @@ public final class LanguageTest {
       + "lay(int,int,int,int)int get(int,int,int)int copy(int,int,int,int,int)int write(int,int)int count(int)int digest()long";
   private static final String FORBIDDEN = "\\b(import|package|throw|throws|try|catch|finally|synchronized|assert|volatile|native|protected|"
       + "Object|Thread|Random|System\\.(?!arraycopy\\b)\\w+|\\w+Exact|hashCode|toString|getClass)\\b|->|::|@";
+  /** Of the library, what rule 4 lists: functions, and no constants such as Integer.MIN_VALUE. */
+  private static final String LISTED = "(Integer|Long|Math)\\.[a-z]\\w*|System\\.arraycopy|Arrays\\.(copyOf|copyOfRange|fill)|List\\.of";
   private static int wrong = 0;
 
   private static void rule(int number, String what, boolean kept) {
@@ -88,6 +90,7 @@ public final class LanguageTest {
     String bare = text.replaceAll("(?s)/\\*.*?\\*/", "").replaceAll("//[^\n]*", "").replaceAll("\"[^\"\n]*\"", "\"\"");
     Matcher m = Pattern.compile(FORBIDDEN).matcher(bare);
     while (m.find()) rule(6, "the program has " + m.group(), false);
+    library(bare);
     String[] lines = text.split("\n");
     int from = -1, depth = 0, opened = 0;
     for (int i = 0; i < lines.length; i++) {
@@ -101,6 +104,14 @@ public final class LanguageTest {
         from = -1;
       }
     }
+  }
+
+  private static void library(String bare) {
+    TreeSet<String> own = new TreeSet<>();
+    for (Class<?> c : ToastGaol.class.getDeclaredClasses()) own.add(c.getSimpleName());
+    own.add("ToastGaol");
+    Matcher m = Pattern.compile("\\b([A-Z]\\w*[a-z]\\w*)\\.\\w+").matcher(bare);
+    while (m.find()) rule(4, "the program has " + m.group(), own.contains(m.group(1)) || m.group().matches(LISTED));
   }
 
   /** What one object keeps; the room of a run has some 600,000 objects and 7.3 million fields and elements. */
